@@ -549,8 +549,7 @@ public final class Ferryroster {
                 }
             }
         }
-        CrewSearch.fillPosts(crewSearch, 0, 0, 0);
-        if (!crewSearch.hasFound()) {
+        if (!crewSearch.findCrew()) {
             return NONE;
         }
         takeAllOff(voyage);
@@ -1043,7 +1042,8 @@ public final class Ferryroster {
             }
         }
 
-        boolean hasFound() {
+        boolean findCrew() {
+            fillPosts(this, 0, 0, 0);
             return fewestChanges <= posts;
         }
 
