@@ -170,7 +170,9 @@ public final class ModelTest {
             case "sailings":
                 return new int[] {"pscPx".charAt(below(5))};
             case "work":
-                return new int[] {person(), below(10) == 0 ? wild() : below(999), below(10) == 0 ? wild() : below(1001)};
+                return new int[] {
+                    person(), below(10) == 0 ? wild() : below(999), below(10) == 0 ? wild() : below(1001),
+                };
             case "nextStart":
                 return new int[] {person(), days(12)};
             default:
@@ -242,8 +244,8 @@ public final class ModelTest {
         Check.due("calls that were made", SEEN.size(), 37);
         String[] reached = {
             "assign IllegalArgumentException", "assign UnsupportedOperationException", "assign IllegalStateException",
-            "assign NoSuchElementException", "assign IndexOutOfBoundsException", "relieve UnsupportedOperationException",
-            "relieve 0", "relieve 1", "relieve 2", "relieve 3", "relieveAll 0", "relieveAll 1", "relieveAll 2",
+            "assign NoSuchElementException", "assign IndexOutOfBoundsException",
+            "relieve UnsupportedOperationException", "relieve 0", "relieve 1", "relieve 2", "relieve 3", "relieveAll 0", "relieveAll 1", "relieveAll 2",
             "relieveAll 3", "relieveAll 4", "reason 0", "reason 1", "reason 2", "reason 3", "reason 4", "reason 5",
             "reason 6", "renew answer", "renew IllegalStateException", "grant IllegalStateException",
             "leaveCourse answer", "recover answer", "recover IllegalStateException", "enroll IllegalStateException",

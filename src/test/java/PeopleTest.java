@@ -14,6 +14,7 @@ public final class PeopleTest {
         enrollIsRefused();
         leaveCourse();
         coursesOfThePast();
+        theLastDay();
         isAway();
         Check.end("PeopleTest");
     }
@@ -322,6 +323,29 @@ public final class PeopleTest {
         Check.yes("the other one", x.isAway(0, 4));
         Check.due("leaving the other one", x.leaveCourse(0), 1);
         Check.yes("does not touch the one that is over", x.isAway(0, 1));
+    }
+
+    private static void theLastDay() {
+        Ferryroster x = withPerson();
+        x.enroll(0, 1, 41, 1);
+        passDays(x, 40);
+        x.grant(0, 0, 9);
+        x.addShip(0);
+        x.plan(0, 983, 2);
+        x.plan(0, 985, 2);
+        Check.due("on a course on the day 41", x.reason(0, 0, 0), Ferryroster.ON_COURSE);
+        Check.due("leaves it", x.leaveCourse(0), 1);
+        x.assign(0, 0, 0);
+        x.pass(23);
+        x.assign(1, 0, 0);
+        x.pass(1);
+        Check.due("sick on the day 41", x.callSick(0, 20), 1);
+        Check.due("the reason", x.reason(1, 0, 0), Ferryroster.SICK);
+        Check.due("well on the day 41", x.recover(0), 1);
+        Check.fails("not sick", Check.STATE, () -> x.recover(0));
+        Check.no("not away", x.isAway(0, 41));
+        Check.fails("no later day", Check.ARGUMENT, () -> x.enroll(0, 1, 42, 1));
+        Check.due("sails", x.pass(1), 0);
     }
 
     private static void isAway() {

@@ -10,6 +10,7 @@ public final class ReliefTest {
         takesDifferentPeople();
         nothingShort();
         onlyTheFirstFour();
+        fifthHasNoSay();
         fewestCancelled();
         cancelledOnesSetPeopleFree();
         laterOneFirst();
@@ -40,7 +41,9 @@ public final class ReliefTest {
         }
     }
 
+    /** Nobody has sailed in these tests: a sailing with people is planned. */
     private static void crew(Ferryroster x, int sailing, int... people) {
+        Check.due("state of sailing " + sailing, x.stateOf(sailing), 'p');
         for (int post = 0; post < people.length; post++) {
             Check.due("sailing " + sailing + " post " + post, x.personOn(sailing, post), people[post]);
         }
@@ -188,6 +191,26 @@ public final class ReliefTest {
         Check.due("two planned", x.sailings('p'), 2);
         Check.due("the two others", x.relieveAll(), 2);
         Check.due("all cancelled", x.sailings('c'), 6);
+    }
+
+    /** The first one takes the hours of the last two, but these are not looked at. */
+    private static void fifthHasNoSay() {
+        Ferryroster x = with(1, 2);
+        ship(x, 0);
+        ship(x, 1);
+        ship(x, 0);
+        x.plan(0, 10, 12);
+        x.plan(1, 11, 1);
+        x.plan(1, 12, 1);
+        x.plan(1, 13, 1);
+        x.plan(2, 14, 2);
+        x.plan(2, 16, 2);
+        Check.due("none cancelled", x.relieveAll(), 0);
+        int[] due = {0, 1, 1, 1, -1, -1};
+        for (int sailing = 0; sailing < due.length; sailing++) {
+            crew(x, sailing, due[sailing]);
+        }
+        Check.due("the two others", x.relieveAll(), 2);
     }
 
     /** The long one in the middle would take the hours of the two others. */

@@ -17,6 +17,7 @@ public final class SailingTest {
         reasonOfDays();
         reasonOfRows();
         reasonOfOtherRows();
+        reasonOfRowsNextToIt();
         reasonTakesOwnPostsAsOpen();
         reasonIsRefused();
         fitting();
@@ -438,6 +439,25 @@ public final class SailingTest {
         x.setWeekRule(5);
         Check.due("rows without the sailing do not matter", x.reason(1, 0, 0), Ferryroster.FITS);
         Check.due("the other sailing itself", x.reason(0, 0, 0), Ferryroster.DAY_RULE);
+    }
+
+    /** A row with too much work that stops just before the sailing, or begins just after it. */
+    private static void reasonOfRowsNextToIt() {
+        int[][] starts = {{11, 13, 35}, {50, 39, 25}};
+        for (int[] start : starts) {
+            Ferryroster x = with(1);
+            x.addShip(0);
+            x.plan(0, start[0], 1);
+            x.plan(0, start[1], 10);
+            x.plan(0, start[2], 2);
+            x.assign(1, 0, 0);
+            x.assign(2, 0, 0);
+            x.setDayRule(11);
+            Check.due("rows with it have 11 hours", x.reason(0, 0, 0), Ferryroster.FITS);
+            Check.due("a row without it has 12", x.reason(1, 0, 0), Ferryroster.DAY_RULE);
+            x.setDayRule(10);
+            Check.due("11 hours are too many", x.reason(0, 0, 0), Ferryroster.DAY_RULE);
+        }
     }
 
     private static void reasonTakesOwnPostsAsOpen() {
