@@ -1,8 +1,10 @@
+import java.util.ArrayList;
+import java.util.List;
 import java.util.Random;
 import java.util.TreeMap;
 import java.util.TreeSet;
 
-/** All calls, in long runs of seeded numbers, on a Ferryroster and on a Model. */
+/** All calls, in long runs of seeded numbers, on a Ferryroster and on a Model; no office gets more than 512 calls. */
 public final class ModelTest {
     private static final int RUNS = 400;
     private static final int CALLS = 512;
@@ -25,10 +27,22 @@ public final class ModelTest {
     private final Random random;
     private final Ferryroster office = new Ferryroster();
     private final Model model = new Model();
+    // What the office has been called, so that another one can be made that is like it.
+    private final List<Asked> history = new ArrayList<>();
     private final int run;
     // How closely in time the sailings of a run stand, and how fast its hours pass.
     private final int spread;
     private final int pace;
+
+    private static final class Asked {
+        final String call;
+        final int[] args;
+
+        Asked(String call, int... args) {
+            this.call = call;
+            this.args = args;
+        }
+    }
 
     private ModelTest(int run) {
         this.run = run;
@@ -49,14 +63,15 @@ public final class ModelTest {
 
     private void play() {
         prepare();
-        for (int i = 40; i < CALLS; i++) {
+        int looks = 0;
+        while (history.size() < CALLS) {
             String[] calls = random.nextInt(3) > 0 ? EVENTS : QUESTIONS;
             make(calls[random.nextInt(calls.length)]);
-            if (i % 64 == 0) {
+            if (history.size() >= 64 * (looks + 1) && history.size() < CALLS - 40) {
+                looks++;
                 compareAll();
             }
         }
-        compareAll();
     }
 
     private void prepare() {
@@ -190,18 +205,21 @@ public final class ModelTest {
     }
 
     private void compare(String call, int... args) {
+        Asked asked = new Asked(call, args);
+        history.add(asked);
+        compareOn(office, asked);
+    }
+
+    private void compareOn(Ferryroster like, Asked asked) {
+        String call = asked.call;
+        int[] args = asked.args;
         Object want;
         try {
             want = askModel(call, args);
         } catch (RuntimeException e) {
             want = e.getClass();
         }
-        Object got;
-        try {
-            got = askOffice(call, args);
-        } catch (RuntimeException e) {
-            got = e.getClass();
-        }
+        Object got = answerOf(like, asked);
         StringBuilder text = new StringBuilder("run ").append(run).append(" at ").append(model.hour).append(": ");
         text.append(call);
         for (int each : args) {
@@ -215,29 +233,55 @@ public final class ModelTest {
         }
     }
 
-    /** The whole state, as far as questions show it. */
+    private static Object answerOf(Ferryroster office, Asked asked) {
+        try {
+            return askOffice(office, asked.call, asked.args);
+        } catch (RuntimeException e) {
+            return Check.thrown(e);
+        }
+    }
+
+    /** The whole state, as far as questions show it, asked of offices that have been called the same. */
     private void compareAll() {
-        compare("now");
-        compare("shortSailings");
-        compare("isSound");
+        Ferryroster like = null;
+        int calls = CALLS;
+        for (Asked question : questions()) {
+            if (calls == CALLS) {
+                like = new Ferryroster();
+                for (Asked each : history) {
+                    answerOf(like, each);
+                }
+                calls = history.size();
+            }
+            compareOn(like, question);
+            calls++;
+        }
+    }
+
+    private List<Asked> questions() {
+        List<Asked> questions = new ArrayList<>();
+        questions.add(new Asked("now"));
+        questions.add(new Asked("shortSailings"));
+        questions.add(new Asked("isSound"));
         for (int sailing = 0; sailing < model.sailings.size(); sailing++) {
-            compare("stateOf", sailing);
+            questions.add(new Asked("stateOf", sailing));
             for (int post = 0; post < model.sailings.get(sailing).posts.length; post++) {
-                compare("personOn", sailing, post);
-                compare("reason", sailing, post, person());
+                questions.add(new Asked("personOn", sailing, post));
+                questions.add(new Asked("reason", sailing, post, person()));
             }
         }
         for (int person = 0; person < model.people.size(); person++) {
             for (int kind = 0; kind < 4; kind++) {
-                compare("lastDay", person, kind);
+                questions.add(new Asked("lastDay", person, kind));
             }
             for (int day = 0; day < 42; day++) {
-                compare("isAway", person, day);
+                questions.add(new Asked("isAway", person, day));
             }
-            compare("mostInDay", person);
-            compare("mostInWeekByHours", person);
-            compare("work", person, 0, 999);
+            questions.add(new Asked("mostInDay", person));
+            questions.add(new Asked("mostInWeekByHours", person));
+            questions.add(new Asked("work", person, 0, 999));
         }
+        return questions;
     }
 
     private static void checkReach() {
@@ -245,10 +289,10 @@ public final class ModelTest {
         String[] reached = {
             "assign IllegalArgumentException", "assign UnsupportedOperationException", "assign IllegalStateException",
             "assign NoSuchElementException", "assign IndexOutOfBoundsException",
-            "relieve UnsupportedOperationException", "relieve 0", "relieve 1", "relieve 2", "relieve 3", "relieveAll 0", "relieveAll 1", "relieveAll 2",
-            "relieveAll 3", "relieveAll 4", "reason 0", "reason 1", "reason 2", "reason 3", "reason 4", "reason 5",
-            "reason 6", "renew answer", "renew IllegalStateException", "grant IllegalStateException",
-            "leaveCourse answer", "recover answer", "recover IllegalStateException", "enroll IllegalStateException",
+            "relieve UnsupportedOperationException", "relieve 0", "relieve 1", "relieve 2", "relieve 3", "relieveAll 0",
+            "relieveAll 1", "relieveAll 2", "relieveAll 3", "relieveAll 4", "reason 0", "reason 1",
+            "reason 2", "reason 3", "reason 4", "reason 5", "reason 6", "renew answer", "renew IllegalStateException",
+            "grant IllegalStateException", "leaveCourse answer", "recover answer", "recover IllegalStateException", "enroll IllegalStateException",
             "addPost IllegalStateException", "plan IllegalStateException", "pass IllegalStateException",
             "nextStart NoSuchElementException", "workShare ArithmeticException", "meanWork ArithmeticException",
         };
@@ -304,7 +348,7 @@ public final class ModelTest {
         }
     }
 
-    private Object askOffice(String call, int[] a) {
+    private static Object askOffice(Ferryroster office, String call, int[] a) {
         switch (call) {
             case "pass": return office.pass(a[0]);
             case "now": return office.now();

@@ -19,6 +19,7 @@ public final class ReliefEdgeTest {
         completeOnesAreNotLookedAt();
         plannedOnesAlone();
         oneToFive();
+        noWayForAny();
         fifthByItsStart();
         fifthByItsNumber();
         fifthIsCountedWithItsCrew();
@@ -309,6 +310,24 @@ public final class ReliefEdgeTest {
             int again = x.shortSailings();
             Check.due(count + " short sailings: cancelled", x.relieveAll(), Math.min(4, again));
             Check.due(count + " short sailings: the state", x.sailings('c'), Math.min(4, again));
+        }
+    }
+
+    /** "or is cancelled if there is no way": all of 1 to 4 short sailings, by the first relief of an office. */
+    private static void noWayForAny() {
+        for (int count = 1; count < 5; count++) {
+            Ferryroster x = with(0, 0);
+            Make.ship(x, 0);
+            for (int i = 0; i < count; i++) {
+                x.plan(0, 80 - 20 * i, 2);
+            }
+            x.plan(0, 100, 2);
+            int looked = Math.min(4, count + 1);
+            Check.due("all of " + count + ", and the last one if there is room", x.relieveAll(), looked);
+            for (int sailing = 0; sailing < count; sailing++) {
+                Check.due("the state of " + sailing, x.stateOf(sailing), 'c');
+            }
+            Check.due("the state of the last one", x.stateOf(count), count < 4 ? 'c' : 'p');
         }
     }
 

@@ -27,6 +27,7 @@ public final class TermsTest {
         elsewhereWhereverThePostIs();
         rowsOfADay();
         rowsOfAWeek();
+        rowsOverASailing();
         rowsWithoutTheSailing();
         rowsThatReachOutOfTime();
         greatestRules();
@@ -95,7 +96,18 @@ public final class TermsTest {
         y.callSick(0, 20);
         Check.due("the day 42 is left out", y.recover(0), 19);
         Ferryroster z = with(1);
+        z.addShip(0);
         Check.due("a course on the day 41", z.enroll(0, 0, 41, 1), 41);
+        z.plan(0, 983, 1);
+        z.plan(0, 984, 1);
+        Check.due("not on the day 40", z.reason(0, 0, 0), Ferryroster.FITS);
+        Check.due("on a course on the day 41", z.reason(1, 0, 0), Ferryroster.ON_COURSE);
+        Make.days(z, 40);
+        z.callSick(0, 1);
+        Check.due("sick on the day 40", z.reason(0, 0, 0), Ferryroster.SICK);
+        Check.due("not sick on the day 41", z.reason(1, 0, 0), Ferryroster.ON_COURSE);
+        z.callSick(0, 2);
+        Check.due("sick on the day 41", z.reason(1, 0, 0), Ferryroster.SICK);
     }
 
     // ---- people
@@ -519,6 +531,29 @@ public final class TermsTest {
                     due[i] ? Ferryroster.WEEK_RULE : Ferryroster.FITS);
             x.setWeekRule(2);
             Check.due("two hours in a week", x.reason(1, 0, 0), Ferryroster.FITS);
+        }
+    }
+
+    /** The two hours 500 and 501 and another one: just the rows that have all three of them are too much. */
+    private static void rowsOverASailing() {
+        int[] days = {477, 478, 523, 524};
+        int[] weeks = {333, 334, 667, 668};
+        boolean[] due = {false, true, true, false};
+        for (int i = 0; i < due.length; i++) {
+            Ferryroster x = with(1);
+            x.addShip(0);
+            Make.sail(x, 0, days[i], 1, 0);
+            x.setDayRule(2);
+            x.plan(0, 500, 2);
+            Check.due("in a day with " + days[i], x.reason(1, 0, 0),
+                    due[i] ? Ferryroster.DAY_RULE : Ferryroster.FITS);
+            Ferryroster y = with(1);
+            y.addShip(0);
+            Make.sail(y, 0, weeks[i], 1, 0);
+            y.setWeekRule(2);
+            y.plan(0, 500, 2);
+            Check.due("in a week with " + weeks[i], y.reason(1, 0, 0),
+                    due[i] ? Ferryroster.WEEK_RULE : Ferryroster.FITS);
         }
     }
 

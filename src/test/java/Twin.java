@@ -77,7 +77,7 @@ final class Twin {
         try {
             return call.on(x);
         } catch (RuntimeException e) {
-            return e.getClass();
+            return Check.thrown(e);
         }
     }
 
