@@ -289,12 +289,13 @@ public final class ModelTest {
         String[] reached = {
             "assign IllegalArgumentException", "assign UnsupportedOperationException", "assign IllegalStateException",
             "assign NoSuchElementException", "assign IndexOutOfBoundsException",
-            "relieve UnsupportedOperationException", "relieve 0", "relieve 1", "relieve 2", "relieve 3", "relieveAll 0",
-            "relieveAll 1", "relieveAll 2", "relieveAll 3", "relieveAll 4", "reason 0", "reason 1",
+            "relieve UnsupportedOperationException", "relieve 0", "relieve 1", "relieve 2", "relieve 3",
+            "relieveAll 0", "relieveAll 1", "relieveAll 2", "relieveAll 3", "relieveAll 4", "reason 0", "reason 1",
             "reason 2", "reason 3", "reason 4", "reason 5", "reason 6", "renew answer", "renew IllegalStateException",
-            "grant IllegalStateException", "leaveCourse answer", "recover answer", "recover IllegalStateException", "enroll IllegalStateException",
-            "addPost IllegalStateException", "plan IllegalStateException", "pass IllegalStateException",
-            "nextStart NoSuchElementException", "workShare ArithmeticException", "meanWork ArithmeticException",
+            "grant IllegalStateException", "leaveCourse answer", "recover answer", "recover IllegalStateException",
+            "enroll IllegalStateException", "addPost IllegalStateException", "plan IllegalStateException",
+            "pass IllegalStateException", "nextStart NoSuchElementException", "workShare ArithmeticException",
+            "meanWork ArithmeticException",
         };
         for (String each : reached) {
             int space = each.indexOf(' ');
