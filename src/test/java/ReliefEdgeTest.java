@@ -476,6 +476,16 @@ public final class ReliefEdgeTest {
         Check.due("one is cancelled", y.relieveAll(), 1);
         Check.due("the one with three changes", y.stateOf(1), 'c');
         crew(y, 0, 0, 1);
+        // One change either way, but only the cancelled sailing 1 has a post that becomes open.
+        Ferryroster z = with(1, 1);
+        Make.ship(z, 0);
+        Make.ship(z, 0);
+        z.plan(0, 10, 4);
+        Make.sail(z, 1, 12, 4, 1);
+        z.callSick(1, 1);
+        Check.due("one is cancelled", z.relieveAll(), 1);
+        Check.due("the one that stands second", z.stateOf(1), 'c');
+        crew(z, 0, 0);
     }
 
     /** "the one whose first sailing stands first among the four" */
