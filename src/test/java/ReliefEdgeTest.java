@@ -32,6 +32,7 @@ public final class ReliefEdgeTest {
         firstStandsFirst();
         secondStandsFirst();
         thirdStandsFirst();
+        eachOrderIsCompared();
         Check.end("ReliefEdgeTest");
     }
 
@@ -541,5 +542,39 @@ public final class ReliefEdgeTest {
         Check.due("the one that needs person 0", y.stateOf(1), 'c');
         crew(y, 2, 1);
         crew(y, 3, 2);
+    }
+
+    /**
+     * "All orders are compared": for each of the 24 orders an office in which any other one cancels a sailing. The
+     * sailing that is to be relieved first has one person alone; each later one would take the person whom the one
+     * ahead of it needs, if it came before, as this is the lower one of its two.
+     */
+    private static void eachOrderIsCompared() {
+        for (int code = 0; code < 256; code++) {
+            int[] order = {code >> 6 & 3, code >> 4 & 3, code >> 2 & 3, code & 3};
+            if ((1 << order[0] | 1 << order[1] | 1 << order[2] | 1 << order[3]) == 15) {
+                onlyThisOrderWillDo(order);
+            }
+        }
+    }
+
+    private static void onlyThisOrderWillDo(int[] order) {
+        Ferryroster x = new Ferryroster();
+        for (int place = 0; place < 4; place++) {
+            x.addPerson();
+            x.grant(place, order[place], 9);
+            if (place < 3) {
+                x.grant(place, order[place + 1], 9);
+            }
+            Make.ship(x, place);
+        }
+        for (int ship = 0; ship < 4; ship++) {
+            x.plan(ship, 10 + ship, 6);
+        }
+        String what = "order " + order[0] + order[1] + order[2] + order[3];
+        Check.due(what, x.relieveAll(), 0);
+        for (int place = 0; place < 4; place++) {
+            Check.due(what + ", the sailing " + order[place], x.personOn(order[place], 0), place);
+        }
     }
 }
